@@ -1130,8 +1130,16 @@ public final class RingedPage {
         }
 
         int endsApart(Leaf leaf) {
-            int early = firstToEnd(leaf);
-            return early < 0 ? 0 : endOf(leaf, lastToEnd(leaf)) - endOf(leaf, early);
+            int least = MOST_LINES;
+            int most = NONE;
+            for (int t = 0; t < TEXTS; t++) {
+                int itsEnd = endOf(leaf, t);
+                if (itsEnd >= 0) {
+                    least = Math.min(least, itsEnd);
+                    most = Math.max(most, itsEnd);
+                }
+            }
+            return most < 0 ? 0 : most - least;
         }
 
         int raggedInAll() {
