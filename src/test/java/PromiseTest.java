@@ -3,7 +3,10 @@ import java.util.Arrays;
 import java.util.List;
 import java.util.NoSuchElementException;
 
-/** Each promise of the document by answers that were worked out by hand: ordinary inputs, edges, wrong inputs. */
+/**
+ * Each promise of the document: ordinary inputs, edges, wrong inputs. Answers were worked out by hand, or, for
+ * searches and for what would be, come from other calls that must agree.
+ */
 public final class PromiseTest {
     private static final int NONE = RingedPage.NONE;
     private static final int MIN = Integer.MIN_VALUE;
