@@ -1,20 +1,12 @@
 import java.util.ArrayList;
 import java.util.Arrays;
 import java.util.List;
-import java.util.NoSuchElementException;
 
 /**
  * Each promise of the document: ordinary inputs, edges, wrong inputs. Answers were worked out by hand, or, for
  * searches and for what would be, come from other calls that must agree.
  */
-public final class PromiseTest {
-    private static final int NONE = RingedPage.NONE;
-    private static final int MIN = Integer.MIN_VALUE;
-    private static final int MAX = Integer.MAX_VALUE;
-    private static final int[] NO_TEXTS = {-1, 3, MIN, MAX};
-    private static int wrong = 0;
-    private static int looked = 0;
-
+public final class PromiseTest extends Checks {
     public static void main(String[] args) {
         promise1New();
         promise2Sign();
@@ -70,152 +62,7 @@ public final class PromiseTest {
         promise41Count();
         promise42Row();
         rowStaysWhereNothingIsTold();
-        System.out.println(looked + " answers looked at, " + wrong + " wrong");
-        if (wrong != 0 || looked == 0) {
-            System.exit(1);
-        }
-    }
-
-    // ---- help
-
-    private static void due(String what, Object got, Object want) {
-        looked++;
-        if (!got.equals(want)) {
-            wrong++;
-            System.out.println(what + ": got " + got + ", due is " + want);
-        }
-    }
-
-    /** The answer, and the ROW behind it. */
-    private static void due(String what, RingedPage x, int got, int want, long... row) {
-        due(what, got, want);
-        due(what + ", the ROW", rowOf(x), asList(row));
-    }
-
-    private static List<Long> asList(long... row) {
-        List<Long> list = new ArrayList<>();
-        for (long v : row) {
-            list.add(v);
-        }
-        return list;
-    }
-
-    private static List<Long> rowOf(RingedPage x) {
-        List<Long> list = new ArrayList<>();
-        int n = x.count(10);
-        for (int i = 0; i < n; i++) {
-            list.add(x.row(i));
-        }
-        return list;
-    }
-
-    private static void write(RingedPage x, String signs) {
-        int p = 0;
-        while (p < signs.length()) {
-            int v = 0;
-            for (int i = 0; i < 4; i++) {
-                v = v << 8 | (p + i < signs.length() ? signs.charAt(p + i) : 0);
-            }
-            x.sign(v);
-            p += 4;
-        }
-        due("the text " + signs, x.end(signs.length()), true);
-    }
-
-    private static int words(RingedPage x, int which, String signs) {
-        write(x, signs);
-        return x.words(which);
-    }
-
-    private static int ties(RingedPage x, String signs) {
-        write(x, signs);
-        return x.ties();
-    }
-
-    private static int day(RingedPage x, String signs) {
-        write(x, signs);
-        return x.day();
-    }
-
-    private static String wordsOf(RingedPage x, int which) {
-        StringBuilder b = new StringBuilder();
-        for (int k = 0; k < x.count(5 + which); k++) {
-            b.append(x.word(which, k, 3));
-        }
-        return b.toString();
-    }
-
-    private static String tiesOf(RingedPage x) {
-        StringBuilder b = new StringBuilder();
-        for (int i = 0; i < x.count(8); i++) {
-            x.tie(i);
-            b.append(x.row(1) == 1 ? 'i' : 'o').append(x.row(2)).append('-').append(x.row(3)).append(' ');
-        }
-        return b.toString().trim();
-    }
-
-    /** All that terms 1 tell of; it tells the ROW anew. */
-    private static String stateOf(RingedPage x) {
-        StringBuilder b = new StringBuilder();
-        for (int what : new int[] {0, 1, 2, 3, 4, 12, 13, 14, 15}) {
-            b.append(x.count(what)).append(' ');
-        }
-        for (int t = 0; t < 3; t++) {
-            b.append(wordsOf(x, t)).append(' ');
-        }
-        return b.append(tiesOf(x)).toString();
-    }
-
-    private static boolean wordThrows(RingedPage x, int which, int k, int what) {
-        try {
-            x.word(which, k, what);
-            return false;
-        } catch (NoSuchElementException e) {
-            return true;
-        }
-    }
-
-    private static boolean tieThrows(RingedPage x, int i) {
-        try {
-            x.tie(i);
-            return false;
-        } catch (NoSuchElementException e) {
-            return true;
-        }
-    }
-
-    private static boolean rowThrows(RingedPage x, int i) {
-        try {
-            x.row(i);
-            return false;
-        } catch (NoSuchElementException e) {
-            return true;
-        }
-    }
-
-    private static String times(String s, int n) {
-        return s.repeat(n);
-    }
-
-    /**
-     * W 40, H 3, CROWN 1. Set by hand: page 0, line 0: INNER 0 - 3 (19 wide), OUTER 0 - 1 (20);
-     * line 1: INNER 4 - 5 (10), MAIN 0 - 2 (18), OUTER 2 (10); line 2: INNER 6 - 7 (10), MAIN 3 - 7 (29);
-     * page 1, line 0: MAIN 8 - 11 (40).
-     */
-    private static RingedPage small() {
-        RingedPage x = new RingedPage();
-        x.sets(1, 3);
-        x.plans(1, 10, 10);
-        words(x, 0, "555555555555");
-        words(x, 1, "44444444");
-        words(x, 2, "999");
-        return x;
-    }
-
-    private static RingedPage smallTied() {
-        RingedPage x = small();
-        due("ties of the small one", ties(x, "i0000i0703o0208"), 3);
-        return x;
+        finish();
     }
 
     // ---- texts
