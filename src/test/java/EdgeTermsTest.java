@@ -70,7 +70,7 @@ public final class EdgeTermsTest extends Checks {
             due("at first none, " + t, x.count(5 + t), 0);
             due("70, " + t, words(x, t, times("1", 70)), 70);
             due("they are there, " + t, wordsOf(x, t), times("1", 70));
-            refused("a 71st comes, " + t, () -> page(40, 20, 1, 2, 10, 10, NINES, NINES, NINES), y -> y.comes(which, 70, 1), -3);
+            refused("a 71st comes, " + t, () -> full(which), y -> y.comes(which, 70, 1), -3);
             due("none, " + t, words(x, t, ""), 0);
             due("none are there, " + t, x.count(5 + t), 0);
             due("sizes 1 and 9, " + t, words(x, t, "19"), 2);
@@ -735,19 +735,19 @@ public final class EdgeTermsTest extends Checks {
         refused("sheet of 71 entries that can't be", Checks::busy, x -> x.sheet(0, -1, 2, 71, 0, 0), NONE);
         refused("part of no TEXT in a line without parts", Checks::busy, x -> x.part(0, 4, 3), NONE);
         refused("at no column of a line without parts", Checks::busy, x -> x.at(0, 4, -1), NONE);
-        refused("more of no SIZE, with 70", EdgeTermsTest::full, x -> x.more(1, 0, 10), NONE);
-        refused("more of no place, with 70", EdgeTermsTest::full, x -> x.more(1, 71, 1), NONE);
-        refused("comes of no SIZE, with 70", EdgeTermsTest::full, x -> x.comes(1, 70, 0), NONE);
-        refused("comes of no place, with 70", EdgeTermsTest::full, x -> x.comes(1, -1, 1), NONE);
+        refused("more of no SIZE, with 70", () -> full(1), x -> x.more(1, 0, 10), NONE);
+        refused("more of no place, with 70", () -> full(1), x -> x.more(1, 71, 1), NONE);
+        refused("comes of no SIZE, with 70", () -> full(1), x -> x.comes(1, 70, 0), NONE);
+        refused("comes of no place, with 70", () -> full(1), x -> x.comes(1, -1, 1), NONE);
         refused("spare of another, without PAGES", RingedPage::new, x -> x.spare(3), NONE);
         refused("sets W to what never can be", Checks::busy, x -> x.sets(0, 0), NONE);
         refused("sets H to what never can be", Checks::busy, x -> x.sets(1, 0), NONE);
         refused("takesBest of another grid, where it is that", EdgeTermsTest::atItsBest, x -> x.takesBest(-1, 9), NONE);
     }
 
-    private static RingedPage full() {
+    private static RingedPage full(int which) {
         RingedPage x = new RingedPage();
-        words(x, 1, times("1", 70));
+        words(x, which, times("1", 70));
         return x;
     }
 

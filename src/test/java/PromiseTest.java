@@ -1177,7 +1177,7 @@ public final class PromiseTest extends Checks {
             }
         }
         RingedPage z = new RingedPage();
-        // R = 12345 at first: 0, a word of MAIN; then -1406932606 + 4294967296 = 2888034690, by 65536: 44067 % 9 = 3
+        // R = 12345 at first: 0, a word of MAIN; then, without sign, 3554416254, by 65536: 54236 % 9 = 2
         due("years: one", z, z.years(0, 1), 1, 0, 1, 0, 0);
         for (int t = 0; t < 3; t++) {
             words(z, t, times("1", 70));
