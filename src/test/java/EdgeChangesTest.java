@@ -189,9 +189,19 @@ public final class EdgeChangesTest extends Checks {
         due("OUTER has both", wordsOf(inner, 2), "12");
         due("it was done", inner.undo() >= 0, true);
         due("and is undone", wordsOf(inner, 1), "12");
+        RingedPage twelve = twelveTies();
+        due("with twelve ties", twelve.swaps(), 0);
+        due("all go with their words", tiesOf(twelve).replaceAll("[^o]", ""), times("o", 12));
         RingedPage outer = page(40, 20, 1, 2, 10, 10, "", "", times("1", 70));
         due("INNER has 70 then", outer.swaps(), 70);
         due("OUTER has none", outer.count(7), 0);
+    }
+
+    /** INNER 0 .. 11 are tied to MAIN 0 .. 11. */
+    private static RingedPage twelveTies() {
+        RingedPage x = page(40, 20, 1, 2, 10, 10, times("5", 12), times("4", 12));
+        due("twelve ties", ties(x, "i0000i0101i0202i0303i0404i0505i0606i0707i0808i0909i1010i1111"), 12);
+        return x;
     }
 
     private static void swapsOfNone() {
@@ -251,6 +261,10 @@ public final class EdgeChangesTest extends Checks {
             x.undo();
             due("as it was, " + grid[0] + " by " + grid[1], planOf(x), "1 10 10");
         }
+        RingedPage x = smallTied();
+        int cost = smallTied().best(2, 1);
+        due("without best() ahead of it", x.takesBest(2, 1), cost);
+        due("it is that", x.cost(), cost);
         RingedPage none = new RingedPage();
         due("a cost of 0 is no refusal", none.takesBest(0, 1), 0);
         due("it is done", planOf(none), "0 9 9");
@@ -288,6 +302,10 @@ public final class EdgeChangesTest extends Checks {
         due("behind one", x.comes(0, 5, 9), 14);
         due("ties go on with words of MAIN", tiesOf(x), "i0-0 i7-4 o4-10");
         due("the first of a TEXT", new RingedPage().comes(1, 0, 9), 1);
+        RingedPage twelve = twelveTies();
+        twelve.comes(1, 0, 1);
+        twelve.comes(0, 6, 1);
+        due("twelve ties go on", tiesOf(twelve), "i1-0 i2-1 i3-2 i4-3 i5-4 i6-5 i7-7 i8-8 i9-9 i10-10 i11-11 i12-12");
         RingedPage y = smallTied();
         int cost = y.more(0, 3, 9);
         y.comes(0, 3, 9);
@@ -350,6 +368,10 @@ public final class EdgeChangesTest extends Checks {
         y.goes(2, 0);
         due("ties of words behind it", tiesOf(y), "o1-7");
         due("69 of 70", full().goes(1, 69), 69);
+        RingedPage twelve = twelveTies();
+        twelve.goes(1, 11);
+        twelve.goes(0, 0);
+        due("ten of twelve ties", tiesOf(twelve), "i1-0 i2-1 i3-2 i4-3 i5-4 i6-5 i7-6 i8-7 i9-8 i10-9");
     }
 
     private static void goesOfNone() {
@@ -394,6 +416,7 @@ public final class EdgeChangesTest extends Checks {
         boolean isDone = call.applyAsInt(y) >= 0;
         due(act + ": done", x.day(), isDone ? 1 : 0);
         due(act + ": one could not be", x.row(0), isDone ? 0L : 1L);
+        due(act + ": COST then", x.row(1), (long) y.cost());
         due(act + ": as the call", allButRowOf(x), allButRowOf(y));
     }
 
@@ -471,6 +494,15 @@ public final class EdgeChangesTest extends Checks {
                 asTheCall("b" + most + step, x -> x.takesBest(most, step));
             }
         }
+        // INNER's last word stands beside MAIN by a crown of 9; a lesser one is the better, the greater it is
+        for (int most : new int[] {0, 5, 8, 9}) {
+            RingedPage tower = page(40, 20, 1, 2, 10, 10, "9", times("9", 37));
+            due("to a crown of " + most, day(tower, "b" + most + "9"), 1);
+            due("the crown is " + most, planOf(tower), most + " 9 9");
+        }
+        RingedPage wide = page(60, 20, 1, 2, 10, 10, "9", "", "99");
+        due("by steps of 4", day(wide, "b04"), 1);
+        due("OUTER has 21", planOf(wide), "0 9 21");
         RingedPage x = typed("b01b01");
         due("a second time it is that", x.day(), 1);
         due("so it stops", x.row(0), 1L);
@@ -506,6 +538,8 @@ public final class EdgeChangesTest extends Checks {
         due("one could not be", stopped, stopped.day(), 1, 1, 10000);
         RingedPage none = typed("w40");
         due("none could be", none, none.day(), 0, 1, 10100);
+        RingedPage planned = small();
+        due("set anew", planned, day(planned, "p01010"), 1, 0, 10008);
     }
 
     private static void daySigns() {

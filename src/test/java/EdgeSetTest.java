@@ -91,6 +91,12 @@ public final class EdgeSetTest extends Checks {
         refused("the last line of the last page", EdgeSetTest::told, x -> x.part(1, 2, 0), -2);
         RingedPage x = page(40, 40, 1, 0, 10, 10, "9");
         due("a TEXT without words", x.part(0, 0, 1), -2);
+        RingedPage shorter = page(40, 20, 1, 0, 10, 10, times("9", 12), "99");
+        due("there were four lines", shorter, shorter.pages(), 1, 4);
+        words(shorter, 0, "9999");
+        words(shorter, 1, "");
+        due("nothing is left of what was set before, MAIN", shorter.part(0, 1, 0), -2);
+        due("nothing is left of what was set before, INNER", shorter.part(0, 0, 1), -2);
         due("the last of 40 lines", x.part(0, 39, 0), -2);
     }
 
@@ -111,6 +117,7 @@ public final class EdgeSetTest extends Checks {
         }
         for (int l : new int[] {-1, 3, MIN, MAX}) {
             refused("LINE " + l, EdgeSetTest::told, x -> x.part(0, l, 0), NONE);
+            refused("LINE " + l + " of the second PAGE", EdgeSetTest::told, x -> x.part(1, l, 0), NONE);
         }
         due("nothing is set", new RingedPage().part(0, 0, 0), NONE);
         RingedPage x = page(40, 3, 1, 0, 10, 10, times("9", 12));
@@ -191,6 +198,7 @@ public final class EdgeSetTest extends Checks {
         }
         for (int l : new int[] {-1, 3, MIN, MAX}) {
             refused("LINE " + l, EdgeSetTest::told, x -> x.at(0, l, 0), NONE);
+            refused("LINE " + l + " of the second PAGE", EdgeSetTest::told, x -> x.at(1, l, 0), NONE);
         }
         for (int c : new int[] {-1, 40, MIN, MAX}) {
             refused("column " + c, EdgeSetTest::told, x -> x.at(0, 0, c), NONE);
@@ -321,6 +329,10 @@ public final class EdgeSetTest extends Checks {
         RingedPage y = page(29, 3, 1, 0, 9, 9, times("9", 14));
         due("parts without a blank left, on two pages", y, y.ragged(), 0, 0, 0, 0, 0);
         due("there are two pages", y.pages(), 2);
+        RingedPage changed = page(29, 3, 1, 0, 9, 9, "99", "19");
+        due("64 of INNER", changed, changed.ragged(), 64, 64, 0, 0, 1);
+        words(changed, 1, "");
+        due("nothing is left of it", changed, changed.ragged(), 0, 0, 0, 0, 0);
     }
 
     // ---- promise 14
@@ -370,6 +382,7 @@ public final class EdgeSetTest extends Checks {
         }
         for (int l : new int[] {-1, 3, MIN, MAX}) {
             refused("LINE " + l, EdgeSetTest::told, x -> x.line(0, l), NONE);
+            refused("LINE " + l + " of the second PAGE", EdgeSetTest::told, x -> x.line(1, l), NONE);
         }
         due("nothing is set", new RingedPage().line(0, 0), NONE);
         RingedPage x = page(40, 40, 1, 0, 10, 10, "9");

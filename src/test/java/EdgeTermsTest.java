@@ -405,6 +405,9 @@ public final class EdgeTermsTest extends Checks {
         // 7 8 9 9 leave seven blanks: 3, 2, 2; with an exact fit each gap has one
         columnsOf("7899" + "9", 0, 10, 20, 31, 0);
         columnsOf("99981" + "9", 0, 10, 20, 30, 39, 0);
+        // the same in a second line
+        columnsOf("9999" + "9866" + "9", 0, 11, 21, 31, 0, 13, 25, 34, 0);
+        columnsOf("9999" + "7899" + "9", 0, 11, 21, 31, 0, 10, 20, 31, 0);
         RingedPage x = page(40, 20, 1, 0, 10, 10, "99999", "444", "");
         due("the only gap takes all", x.word(1, 1, 2), 6);
     }

@@ -184,6 +184,13 @@ public final class EdgeTextsTest extends Checks {
             words(refused, t, same[t] + "0");
             due("not by a refused one, " + t, tiesOf(refused), "i0-0 i7-3 o2-8");
         }
+        RingedPage twelve = manyWords();
+        ties(twelve, TWELVE);
+        words(twelve, 1, "1");
+        due("six of twelve", tiesOf(twelve), "o12-1 o10-1 o8-1 o6-1 o4-1 o2-1");
+        ties(twelve, "i0000");
+        words(twelve, 0, "1");
+        due("all", twelve.count(8), 0);
     }
 
     private static void wordsDigits() {

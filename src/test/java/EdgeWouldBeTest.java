@@ -129,6 +129,7 @@ public final class EdgeWouldBeTest extends Checks {
         x.cost();
         due("nothing", x, x.near(8, 9, 0), 0);
         due("no number", rowThrows(x, 0), true);
+        due("none is counted", x.count(10), 0);
         // OUTER has both words beside MAIN from a share of 19 on
         RingedPage y = page(40, 20, 1, 0, 9, 9, "9", "", "99");
         due("the first by its OUTER", y, y.near(2, 1, 0), 3, 0, 9, 19);
@@ -199,6 +200,8 @@ public final class EdgeWouldBeTest extends Checks {
         due("shares as they are", full, full.climbs(), 0, 0, 9, 9, 10016);
         full.sets(0, 30);
         due("INNER one more, where it can be", full, full.climbs(), 1, 0, 10, 9, 0);
+        full.swaps();
+        due("OUTER one more, where it can be", full, full.climbs(), 1, 0, 9, 10, 0);
         RingedPage narrow = page(29, 20, 1, 0, 9, 9, "9", times("9", 7));
         // by a crown of 2 the last of INNER stands beside MAIN
         due("crowns alone", narrow, narrow.climbs(), 2, 2, 9, 9, 0);
