@@ -15,6 +15,9 @@ abstract class Checks {
     static final int MIN = Integer.MIN_VALUE;
     static final int MAX = Integer.MAX_VALUE;
     static final int[] NO_TEXTS = {-1, 3, MIN, MAX};
+    /** What can be undone; change() does each of them. */
+    static final String[] KINDS = {"words", "ties", "sets W", "sets H", "sets GUTTER", "weighs", "swaps", "plans", "takesBest",
+        "comes", "goes", "day"};
     private static final Path DOCUMENT = Path.of("../shared/DOC.md");
     private static final Map<String, List<String>> QUOTED = new LinkedHashMap<>();
     private static String where = "";
@@ -201,6 +204,14 @@ abstract class Checks {
         return list;
     }
 
+    static String signsOfRow(RingedPage x) {
+        StringBuilder b = new StringBuilder();
+        for (long number : rowOf(x)) {
+            b.append(number);
+        }
+        return b.toString();
+    }
+
     static String wordsOf(RingedPage x, int which) {
         StringBuilder b = new StringBuilder();
         int n = x.count(5 + which);
@@ -341,5 +352,105 @@ abstract class Checks {
         due("the busy one", x, x.cost(), 10100, 1, 1, 0);
         write(x, "47");
         return x;
+    }
+
+    /** The busy one with another text typed. */
+    static RingedPage typed(String signs) {
+        RingedPage x = busy();
+        x.end(0);
+        write(x, signs);
+        return x;
+    }
+
+    /** The busy one with another plan. */
+    static RingedPage planned(int crown, int inner, int outer) {
+        RingedPage x = busy();
+        due("the plan can be", x.plans(crown, inner, outer), 21010);
+        return x;
+    }
+
+    /** The busy one as it was kept, so that nothing can be undone. */
+    static RingedPage withoutPast() {
+        RingedPage x = busy();
+        due("it was kept", x.again(0), true);
+        return x;
+    }
+
+    /** No words, but a ROW. */
+    static RingedPage withARow() {
+        RingedPage x = new RingedPage();
+        x.cost();
+        return x;
+    }
+
+    /** Seventy words of one text, and a ROW. */
+    static RingedPage full(int which) {
+        RingedPage x = new RingedPage();
+        words(x, which, times("1", 70));
+        x.cost();
+        return x;
+    }
+
+    static RingedPage full() {
+        return full(1);
+    }
+
+    // ---- what is done to them
+
+    /** One of the changes, each of which can be done on the small one. */
+    static int change(RingedPage x, int kind) {
+        switch (kind) {
+            case 0: return words(x, 1, "12");
+            case 1: return ties(x, "o0000");
+            case 2: return x.sets(0, 41);
+            case 3: return x.sets(1, 4);
+            case 4: return x.sets(2, 2);
+            case 5: return x.weighs(1, 5);
+            case 6: return x.swaps();
+            case 7: return x.plans(0, 9, 9);
+            case 8: return x.takesBest(2, 1);
+            case 9: return x.comes(0, 3, 1);
+            case 10: return x.goes(0, 3);
+            default: return day(x, "w41h04");
+        }
+    }
+
+    /** The draws of years() by long numbers, as a second way to them, done by comes(). */
+    static void draw(RingedPage x, int seed, int n) {
+        long r = seed & 0xffffffffL;
+        for (int i = 0; i < n; i++) {
+            r = (r * 1103515245L + 12345L) & 0xffffffffL;
+            int which = (int) (r / 65536 % 3);
+            r = (r * 1103515245L + 12345L) & 0xffffffffL;
+            x.comes(which, x.count(5 + which), (int) (r / 65536 % 9) + 1);
+        }
+    }
+
+    /** The climb from the object's plan on, step by step by by(); how many steps climbs() must tell. */
+    static int climbsByHand(RingedPage x) {
+        int[] plan = {x.count(2), x.count(3), x.count(4)};
+        int cost = x.cost();
+        int steps = 0;
+        while (true) {
+            int[] next = null;
+            int least = cost;
+            for (int i = 0; i < 6; i++) {
+                int[] other = plan.clone();
+                other[i / 2] += i % 2 == 0 ? -1 : 1;
+                int its = x.by(other[0], other[1], other[2]);
+                if (its != NONE && its < least) {
+                    least = its;
+                    next = other;
+                }
+            }
+            if (next == null) {
+                break;
+            }
+            plan = next;
+            cost = least;
+            steps++;
+        }
+        due("climbs", x, x.climbs(), steps, plan[0], plan[1], plan[2], cost);
+        return steps;
     }
 }

@@ -4,9 +4,6 @@ import java.util.function.ToIntFunction;
 
 /** The edges that promises 29 to 38 name: changes, days, undo(), years(). */
 public final class EdgeChangesTest extends Checks {
-    private static final String[] KINDS = {"words", "ties", "sets W", "sets H", "sets GUTTER", "weighs", "swaps", "plans", "takesBest",
-        "comes", "goes", "day"};
-
     public static void main(String[] args) {
         sets();
         setsAsItIs();
@@ -64,13 +61,6 @@ public final class EdgeChangesTest extends Checks {
             "Promise 37", "Promise 38");
     }
 
-    private static RingedPage typed(String signs) {
-        RingedPage x = busy();
-        x.end(0);
-        write(x, signs);
-        return x;
-    }
-
     // ---- promise 29
 
     private static void sets() {
@@ -115,12 +105,6 @@ public final class EdgeChangesTest extends Checks {
         due("GUTTER 2", planned(2, 18, 9).sets(2, 2), 1);
         due("GUTTER 4", planned(2, 14, 9).sets(2, 4), 1);
         refused("GUTTER 4, one column less", () -> planned(2, 15, 9), x -> x.sets(2, 4), -3);
-    }
-
-    private static RingedPage planned(int crown, int inner, int outer) {
-        RingedPage x = busy();
-        due("the plan can be", x.plans(crown, inner, outer), 21010);
-        return x;
     }
 
     private static void setsOfOthers() {
@@ -315,17 +299,10 @@ public final class EdgeChangesTest extends Checks {
         due("it is the last", seventy.word(0, 69, 3), 9);
     }
 
-    private static RingedPage full() {
-        RingedPage x = new RingedPage();
-        words(x, 1, times("1", 70));
-        x.cost();
-        return x;
-    }
-
     private static void comesWith70() {
         edge("Promise 34", "-3: it has 70;");
         for (int k : new int[] {0, 69, 70}) {
-            refused("ahead of " + k, EdgeChangesTest::full, x -> x.comes(1, k, 5), -3);
+            refused("ahead of " + k, Checks::full, x -> x.comes(1, k, 5), -3);
         }
         due("another TEXT", full().comes(2, 0, 5), 1);
     }
@@ -338,10 +315,10 @@ public final class EdgeChangesTest extends Checks {
         for (int k : new int[] {-1, 3, MIN, MAX}) {
             refused("place " + k, Checks::busy, x -> x.comes(1, k, 5), NONE);
         }
-        refused("place 71 of 70", EdgeChangesTest::full, x -> x.comes(1, 71, 5), NONE);
+        refused("place 71 of 70", Checks::full, x -> x.comes(1, 71, 5), NONE);
         for (int size : new int[] {0, 10, -1, MIN, MAX}) {
             refused("SIZE " + size, Checks::busy, x -> x.comes(1, 0, size), NONE);
-            refused("SIZE " + size + ", with 70", EdgeChangesTest::full, x -> x.comes(1, 0, size), NONE);
+            refused("SIZE " + size + ", with 70", Checks::full, x -> x.comes(1, 0, size), NONE);
         }
     }
 
@@ -380,7 +357,7 @@ public final class EdgeChangesTest extends Checks {
         for (int[] c : none) {
             refused("TEXT " + c[0] + ", WORD " + c[1], Checks::busy, x -> x.goes(c[0], c[1]), NONE);
         }
-        refused("WORD 70 of 70", EdgeChangesTest::full, x -> x.goes(1, 70), NONE);
+        refused("WORD 70 of 70", Checks::full, x -> x.goes(1, 70), NONE);
         refused("a TEXT without words", RingedPage::new, x -> x.goes(0, 0), NONE);
     }
 
@@ -603,23 +580,6 @@ public final class EdgeChangesTest extends Checks {
 
     // ---- promise 37
 
-    private static int change(RingedPage x, int kind) {
-        switch (kind) {
-            case 0: return words(x, 1, "12");
-            case 1: return ties(x, "o0000");
-            case 2: return x.sets(0, 41);
-            case 3: return x.sets(1, 4);
-            case 4: return x.sets(2, 2);
-            case 5: return x.weighs(1, 5);
-            case 6: return x.swaps();
-            case 7: return x.plans(0, 9, 9);
-            case 8: return x.takesBest(2, 1);
-            case 9: return x.comes(0, 3, 1);
-            case 10: return x.goes(0, 3);
-            default: return day(x, "w41h04");
-        }
-    }
-
     private static void undoOfEachKind() {
         edge("Promise 37", "The latest words(), ties(), sets(), weighs(), swaps(), plans(), takesBest(), comes(), goes(), day()");
         for (int kind = 0; kind < KINDS.length; kind++) {
@@ -754,13 +714,7 @@ public final class EdgeChangesTest extends Checks {
         due("the only one", x.undo(), 0);
         due("no more", x.undo(), NONE);
         due("as at first", x.count(13), 10000);
-        refused("all stays", EdgeChangesTest::withoutPast, y -> y.undo(), NONE);
-    }
-
-    private static RingedPage withoutPast() {
-        RingedPage x = busy();
-        due("it was kept", x.again(0), true);
-        return x;
+        refused("all stays", Checks::withoutPast, y -> y.undo(), NONE);
     }
 
     private static void undoAndAgain() {
@@ -778,17 +732,6 @@ public final class EdgeChangesTest extends Checks {
     }
 
     // ---- promise 38
-
-    /** The draws by long numbers, done by comes() on an object that keeps them. */
-    private static void draw(RingedPage y, int seed, int n) {
-        long r = seed & 0xffffffffL;
-        for (int i = 0; i < n; i++) {
-            r = (r * 1103515245L + 12345L) & 0xffffffffL;
-            int which = (int) (r / 65536 % 3);
-            r = (r * 1103515245L + 12345L) & 0xffffffffL;
-            y.comes(which, y.count(5 + which), (int) (r / 65536 % 9) + 1);
-        }
-    }
 
     private static void asDrawn(String what, RingedPage x, RingedPage y, int seed, int n) {
         draw(y, seed, n);

@@ -367,14 +367,6 @@ public final class EdgeSetTest extends Checks {
         due("60 columns", signsOfRow(wide), "3" + times("0", 59));
     }
 
-    private static String signsOfRow(RingedPage x) {
-        StringBuilder b = new StringBuilder();
-        for (long number : rowOf(x)) {
-            b.append(number);
-        }
-        return b.toString();
-    }
-
     private static void lineOfNone() {
         edge("Promise 15", "NONE: no such PAGE, LINE.");
         for (int p : new int[] {-1, 2, MIN, MAX}) {

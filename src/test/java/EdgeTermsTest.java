@@ -84,13 +84,6 @@ public final class EdgeTermsTest extends Checks {
         due("OUTER is text 2, at the right", x.at(0, 0, 30), 200);
     }
 
-    private static RingedPage typed(String signs) {
-        RingedPage x = busy();
-        x.end(0);
-        write(x, signs);
-        return x;
-    }
-
     private static void width() {
         edge("Terms 1", "WIDTH W 29 .. 60 (40)");
         RingedPage x = new RingedPage();
@@ -197,12 +190,6 @@ public final class EdgeTermsTest extends Checks {
         due("a GUTTER of 4 by shares of 23 together", planned(2, 12, 11).sets(2, 4), 1);
     }
 
-    private static RingedPage planned(int crown, int inner, int outer) {
-        RingedPage x = busy();
-        due("the plan can be", x.plans(crown, inner, outer), 21010);
-        return x;
-    }
-
     private static void pagesTillNothingIsLeft() {
         edge("Terms 1", "PAGES are set one behind another, LINES 0 .. H - 1 of each, till no TEXT has WORDS left.");
         // four words of 9 fill a line of 40
@@ -280,7 +267,7 @@ public final class EdgeTermsTest extends Checks {
         // INNER 0 - 8, blanks 9 - 12, MAIN 13 - 24, blanks 25 - 28, OUTER 29 - 39
         due("as it is read", x.line(0, 0), 27);
         String read = times("2", 9) + "0000" + times("1", 9) + "000" + "0000" + times("3", 9) + "00";
-        due("letters and blanks", rowOf(x).toString().replaceAll("[^0-9]", ""), read);
+        due("letters and blanks", signsOfRow(x), read);
     }
 
     private static void columns(int gutter, int crown, int[] want, String... texts) {
@@ -429,7 +416,7 @@ public final class EdgeTermsTest extends Checks {
         due("INNER's last part", x.word(1, 1, 2), 0);
         RingedPage y = page(40, 20, 1, 2, 10, 10, "1234");
         due("the last part", y.line(0, 0), 10);
-        due("one blank between each two", rowOf(y).toString().replaceAll("[^0-9]", ""), "1011011101111" + times("0", 27));
+        due("one blank between each two", signsOfRow(y), "1011011101111" + times("0", 27));
         RingedPage z = page(40, 20, 1, 2, 10, 10, "12349999");
         due("the same words, not the last ones", z.word(0, 1, 2) > 2, true);
     }
@@ -704,7 +691,7 @@ public final class EdgeTermsTest extends Checks {
         refused("takesBest as it is", EdgeTermsTest::atItsBest, x -> x.takesBest(0, 9), -2);
         refused("comes of no TEXT", Checks::busy, x -> x.comes(3, 0, 5), NONE);
         refused("goes of no WORD", Checks::busy, x -> x.goes(2, 1), NONE);
-        refused("undo of nothing", EdgeTermsTest::withoutPast, x -> x.undo(), NONE);
+        refused("undo of nothing", Checks::withoutPast, x -> x.undo(), NONE);
         refused("keep", Checks::busy, x -> x.keep(2) ? 1 : 0, 0);
         refused("again", Checks::busy, x -> x.again(1) ? 1 : 0, 0);
     }
@@ -723,12 +710,6 @@ public final class EdgeTermsTest extends Checks {
         return x;
     }
 
-    private static RingedPage withoutPast() {
-        RingedPage x = busy();
-        due("it was kept", x.again(0), true);
-        return x;
-    }
-
     private static void noneComesAhead() {
         edge("Terms 2", "NONE comes ahead of other answers below 0;");
         refusedReading("words of no TEXT, with a wrong sign", () -> typed("123x"), x -> x.words(3), NONE);
@@ -738,20 +719,14 @@ public final class EdgeTermsTest extends Checks {
         refused("sheet of 71 entries that can't be", Checks::busy, x -> x.sheet(0, -1, 2, 71, 0, 0), NONE);
         refused("part of no TEXT in a line without parts", Checks::busy, x -> x.part(0, 4, 3), NONE);
         refused("at no column of a line without parts", Checks::busy, x -> x.at(0, 4, -1), NONE);
-        refused("more of no SIZE, with 70", () -> full(1), x -> x.more(1, 0, 10), NONE);
-        refused("more of no place, with 70", () -> full(1), x -> x.more(1, 71, 1), NONE);
-        refused("comes of no SIZE, with 70", () -> full(1), x -> x.comes(1, 70, 0), NONE);
-        refused("comes of no place, with 70", () -> full(1), x -> x.comes(1, -1, 1), NONE);
+        refused("more of no SIZE, with 70", Checks::full, x -> x.more(1, 0, 10), NONE);
+        refused("more of no place, with 70", Checks::full, x -> x.more(1, 71, 1), NONE);
+        refused("comes of no SIZE, with 70", Checks::full, x -> x.comes(1, 70, 0), NONE);
+        refused("comes of no place, with 70", Checks::full, x -> x.comes(1, -1, 1), NONE);
         refused("spare of another, without PAGES", RingedPage::new, x -> x.spare(3), NONE);
         refused("sets W to what never can be", Checks::busy, x -> x.sets(0, 0), NONE);
         refused("sets H to what never can be", Checks::busy, x -> x.sets(1, 0), NONE);
         refused("takesBest of another grid, where it is that", EdgeTermsTest::atItsBest, x -> x.takesBest(-1, 9), NONE);
-    }
-
-    private static RingedPage full(int which) {
-        RingedPage x = new RingedPage();
-        words(x, which, times("1", 70));
-        return x;
     }
 
     private static void rowStaysWithRefusals() {
@@ -759,17 +734,11 @@ public final class EdgeTermsTest extends Checks {
         refused("part that there is none", Checks::busy, x -> x.part(0, 0, 0), -2);
         refused("part in a line without parts", Checks::busy, x -> x.part(0, 4, 0), -2);
         refused("at a blank", Checks::busy, x -> x.at(0, 0, 4), -2);
-        refused("spare without PAGES", EdgeTermsTest::withARowAlone, x -> x.spare(1), -2);
+        refused("spare without PAGES", Checks::withARow, x -> x.spare(1), -2);
         refused("narrow that there is none", EdgeTermsTest::seventyLines, x -> x.narrow(1), -2);
         refused("low that there is none", EdgeTermsTest::seventyLines, x -> x.low(1), -2);
         refused("more with 70", EdgeTermsTest::seventyLines, x -> x.more(0, 0, 1), -3);
         refused("comes with 70", EdgeTermsTest::seventyLines, x -> x.comes(0, 0, 1), -3);
-    }
-
-    private static RingedPage withARowAlone() {
-        RingedPage x = new RingedPage();
-        x.cost();
-        return x;
     }
 
     /** Lines enough for no single page: not by the greatest H, nor by the greatest W and H 3. */

@@ -39,13 +39,6 @@ public final class EdgeTextsTest extends Checks {
         finishParts("Promise 1", "Promise 2", "Promise 3", "Promise 4", "Promise 5", "Promise 6");
     }
 
-    private static RingedPage typed(String signs) {
-        RingedPage x = busy();
-        x.end(0);
-        write(x, signs);
-        return x;
-    }
-
     // ---- promise 1
 
     private static void newObject() {

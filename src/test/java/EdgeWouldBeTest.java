@@ -158,33 +158,7 @@ public final class EdgeWouldBeTest extends Checks {
         due("no step over two at once", y, y.climbs(), 0, 0, 14, 9, 10000);
         // 1 7 5 1 fill 17 columns; INNER's 9 fills 9: one less of INNER, then one more of OUTER, or the other way
         RingedPage z = page(40, 20, 1, 0, 10, 11, "175193", "94", "3");
-        byHand("two shares", z);
-    }
-
-    /** From the plan of the object on by by(), step by step. */
-    private static void byHand(String what, RingedPage x) {
-        int[] plan = {x.count(2), x.count(3), x.count(4)};
-        int cost = x.cost();
-        int steps = 0;
-        for (boolean goesOn = true; goesOn;) {
-            int[] best = plan;
-            int least = cost;
-            for (int i = 0; i < 6; i++) {
-                int[] other = plan.clone();
-                other[i / 2] += i % 2 == 0 ? -1 : 1;
-                int its = x.by(other[0], other[1], other[2]);
-                if (its != NONE && its < least) {
-                    least = its;
-                    best = other;
-                }
-            }
-            goesOn = least < cost;
-            steps += goesOn ? 1 : 0;
-            plan = best;
-            cost = least;
-        }
-        due(what + ": it is a climb", steps > 0, true);
-        due(what, x, x.climbs(), steps, plan[0], plan[1], plan[2], cost);
+        due("two shares", climbsByHand(z) > 0, true);
     }
 
     /** Neighbours that can't be are none: each of these would be gone to, if it could be. */
@@ -431,16 +405,9 @@ public final class EdgeWouldBeTest extends Checks {
     private static void moreWith70() {
         edge("Promise 26", "-3: it has 70;");
         for (int k : new int[] {0, 35, 69, 70}) {
-            refused("ahead of " + k, EdgeWouldBeTest::full, x -> x.more(1, k, 5), -3);
+            refused("ahead of " + k, Checks::full, x -> x.more(1, k, 5), -3);
         }
         due("another TEXT of it", full().more(0, 0, 5) >= 0, true);
-    }
-
-    private static RingedPage full() {
-        RingedPage x = new RingedPage();
-        words(x, 1, times("1", 70));
-        x.cost();
-        return x;
     }
 
     private static void moreNone() {
@@ -451,10 +418,10 @@ public final class EdgeWouldBeTest extends Checks {
         for (int k : new int[] {-1, 3, MIN, MAX}) {
             refused("place " + k, Checks::busy, x -> x.more(1, k, 5), NONE);
         }
-        refused("place 71 of 70", EdgeWouldBeTest::full, x -> x.more(1, 71, 5), NONE);
+        refused("place 71 of 70", Checks::full, x -> x.more(1, 71, 5), NONE);
         for (int size : new int[] {0, 10, -1, MIN, MAX}) {
             refused("SIZE " + size, Checks::busy, x -> x.more(1, 0, size), NONE);
-            refused("SIZE " + size + ", with 70", EdgeWouldBeTest::full, x -> x.more(1, 0, size), NONE);
+            refused("SIZE " + size + ", with 70", Checks::full, x -> x.more(1, 0, size), NONE);
         }
     }
 
@@ -564,18 +531,13 @@ public final class EdgeWouldBeTest extends Checks {
 
     private static void spareNone() {
         edge("Promise 28", "-2: there are no PAGES;");
-        refused("INNER", EdgeWouldBeTest::withARow, x -> x.spare(1), -2);
-        refused("OUTER", EdgeWouldBeTest::withARow, x -> x.spare(2), -2);
+        refused("INNER", Checks::withARow, x -> x.spare(1), -2);
+        refused("OUTER", Checks::withARow, x -> x.spare(2), -2);
         edge("Promise 28", "NONE: another what.");
         for (int what : new int[] {-1, 0, 3, MIN, MAX}) {
             refused("what " + what, Checks::busy, x -> x.spare(what), NONE);
-            refused("what " + what + ", without PAGES", EdgeWouldBeTest::withARow, x -> x.spare(what), NONE);
+            refused("what " + what + ", without PAGES", Checks::withARow, x -> x.spare(what), NONE);
         }
     }
 
-    private static RingedPage withARow() {
-        RingedPage x = new RingedPage();
-        x.cost();
-        return x;
-    }
 }

@@ -478,11 +478,11 @@ public final class PromiseTest extends Checks {
         String main = "111110011111011111";
         String outer = "0" + "3333333330";
         due("line: letters", x.line(0, 1), 32);
-        due("line: as it is read", signsOf(x), inner + main + outer);
+        due("line: as it is read", signsOfRow(x), inner + main + outer);
         due("line: a crown", x.line(0, 0), 34);
-        due("line: as the crown is read", signsOf(x), "2222022220222202222" + "0" + "33333333300333333333");
+        due("line: as the crown is read", signsOfRow(x), "2222022220222202222" + "0" + "33333333300333333333");
         due("line: behind all", x.line(1, 1), 0);
-        due("line: noughts", signsOf(x), times("0", 40));
+        due("line: noughts", signsOfRow(x), times("0", 40));
         x.sets(0, 60);
         // INNER has (60 - 1) / 2 = 29 columns: six words, OUTER 30: three
         due("line: the widest", x.line(0, 0), 4 * 6 + 9 * 3);
@@ -494,14 +494,6 @@ public final class PromiseTest extends Checks {
         due("line: page -1", x.line(-1, 0), NONE);
         due("line: the ROW stays with NONE", x.count(10), 1);
         due("line: nothing is set", new RingedPage().line(0, 0), NONE);
-    }
-
-    private static String signsOf(RingedPage x) {
-        StringBuilder b = new StringBuilder();
-        for (long v : rowOf(x)) {
-            b.append(v);
-        }
-        return b.toString();
     }
 
     private static void promise16Blank() {
@@ -681,7 +673,7 @@ public final class PromiseTest extends Checks {
         String was = stateOf(x);
         for (int[] from : new int[][] {{1, 10, 10}, {2, 20, 9}, {0, 9, 20}, {2, 14, 12}, {0, 9, 9}}) {
             x.plans(from[0], from[1], from[2]);
-            climbsFrom(x, from[0], from[1], from[2]);
+            climbsByHand(x);
         }
         RingedPage y = smallTied();
         y.climbs();
@@ -689,32 +681,6 @@ public final class PromiseTest extends Checks {
         RingedPage z = new RingedPage();
         due("climbs: no cheaper neighbour", z, z.climbs(), 0, 2, 10, 10, 0);
         crownSteps();
-    }
-
-    private static void climbsFrom(RingedPage x, int crown, int inner, int outer) {
-        int[] plan = {crown, inner, outer};
-        int cost = x.by(crown, inner, outer);
-        int steps = 0;
-        while (true) {
-            int[] next = null;
-            int least = cost;
-            for (int i = 0; i < 6; i++) {
-                int[] other = plan.clone();
-                other[i / 2] += i % 2 == 0 ? -1 : 1;
-                int its = x.by(other[0], other[1], other[2]);
-                if (its != NONE && its < least) {
-                    least = its;
-                    next = other;
-                }
-            }
-            if (next == null) {
-                break;
-            }
-            plan = next;
-            cost = least;
-            steps++;
-        }
-        due("climbs", x, x.climbs(), steps, plan[0], plan[1], plan[2], cost);
     }
 
     private static void crownSteps() {
@@ -1120,16 +1086,14 @@ public final class PromiseTest extends Checks {
     }
 
     private static void promise37EachKind() {
-        String[] kinds = {"words", "ties", "sets W", "sets H", "sets GUTTER", "weighs", "swaps", "plans", "takesBest",
-            "comes", "goes", "day"};
-        for (int kind = 0; kind < kinds.length; kind++) {
+        for (int kind = 0; kind < KINDS.length; kind++) {
             RingedPage x = smallTied();
             String was = stateOf(x);
-            due("undo: done, " + kinds[kind], change(x, kind) >= 0, true);
-            due("undo: it is another then, " + kinds[kind], stateOf(x).equals(was), false);
-            due("undo: one more, " + kinds[kind], x.count(9), 7);
-            due("undo: undone, " + kinds[kind], x.undo(), 6);
-            due("undo: as it was, " + kinds[kind], stateOf(x), was);
+            due("undo: done, " + KINDS[kind], change(x, kind) >= 0, true);
+            due("undo: it is another then, " + KINDS[kind], stateOf(x).equals(was), false);
+            due("undo: one more, " + KINDS[kind], x.count(9), 7);
+            due("undo: undone, " + KINDS[kind], x.undo(), 6);
+            due("undo: as it was, " + KINDS[kind], stateOf(x), was);
         }
         // one behind another, so that each has something else ahead of it
         RingedPage x = smallTied();
@@ -1142,23 +1106,6 @@ public final class PromiseTest extends Checks {
         for (int i = 6; i >= 0; i--) {
             due("undo: left, one behind another", x.undo(), i);
             due("undo: as it was, one behind another", stateOf(x), states.get(i));
-        }
-    }
-
-    private static int change(RingedPage x, int kind) {
-        switch (kind) {
-            case 0: return words(x, 1, "12");
-            case 1: return ties(x, "o0000");
-            case 2: return x.sets(0, 41);
-            case 3: return x.sets(1, 4);
-            case 4: return x.sets(2, 2);
-            case 5: return x.weighs(1, 5);
-            case 6: return x.swaps();
-            case 7: return x.plans(0, 9, 9);
-            case 8: return x.takesBest(2, 1);
-            case 9: return x.comes(0, 3, 1);
-            case 10: return x.goes(0, 3);
-            default: return day(x, "w41h04");
         }
     }
 
@@ -1190,18 +1137,6 @@ public final class PromiseTest extends Checks {
             due("years: another n, the ROW stays", z, z.years(1, n), NONE, lines);
         }
         oneFullText();
-    }
-
-    /** The draws by long numbers, as a second way to them. */
-    private static void draw(RingedPage y, int seed, int n) {
-        long r = seed & 0xffffffffL;
-        for (int i = 0; i < n; i++) {
-            r = (r * 1103515245L + 12345L) & 0xffffffffL;
-            int which = (int) (r / 65536 % 3);
-            r = (r * 1103515245L + 12345L) & 0xffffffffL;
-            int size = (int) (r / 65536 % 9) + 1;
-            y.comes(which, y.count(5 + which), size);
-        }
     }
 
     private static void oneFullText() {
