@@ -32,6 +32,11 @@ abstract class Checks {
         where = part + ", \"" + sentence + "\": ";
     }
 
+    /** What follows is for a part of the document that has no sentences to quote. */
+    static void under(String part) {
+        where = part + ": ";
+    }
+
     static void due(String what, Object got, Object want) {
         looked++;
         if (!got.equals(want)) {
@@ -81,7 +86,7 @@ abstract class Checks {
     /** Each sentence that a test names stands in the document, and each word of these parts in such a sentence. */
     static void finishParts(String... parts) {
         where = "";
-        if (!Files.isReadable(DOCUMENT)) {
+        if (!isDocumentThere()) {
             System.out.println("there is no " + DOCUMENT + ": sentences were not looked up");
             finish();
             return;
@@ -124,16 +129,30 @@ abstract class Checks {
         return b.toString().trim();
     }
 
-    private static String partOfDocument(String part) {
-        String text;
+    static boolean isDocumentThere() {
+        return Files.isReadable(DOCUMENT);
+    }
+
+    static String document() {
+        return contentOf(DOCUMENT);
+    }
+
+    static String contentOf(Path file) {
         try {
-            text = Files.readString(DOCUMENT);
+            return Files.readString(file);
         } catch (IOException e) {
             throw new IllegalStateException(e);
         }
+    }
+
+    private static String partOfDocument(String part) {
+        String text = document();
         if (part.startsWith("Promise")) {
             String from = between(text, "## " + part + ":", "\n## ");
             return plain(from.substring(from.indexOf("`: ") + 3));
+        }
+        if (part.equals("What it is")) {
+            return plain(between(text, "\n## What it is\n", "\n## "));
         }
         if (part.equals("Terms 1")) {
             return plain(between(text, "\n1. ", "\n2. "));
@@ -141,7 +160,7 @@ abstract class Checks {
         return part.equals("Terms 2") ? plain(between(text, "\n2. ", "\nAhead of")) : "";
     }
 
-    private static String between(String text, String from, String to) {
+    static String between(String text, String from, String to) {
         int start = text.indexOf(from);
         int stop = start < 0 ? -1 : text.indexOf(to, start + from.length());
         return stop < 0 ? "" : text.substring(start + from.length(), stop);

@@ -7,7 +7,6 @@ public final class EdgeTermsTest extends Checks {
     private static final String NINES = times("9", 70);
 
     public static void main(String[] args) {
-        used512Times();
         textsAndSizes();
         width();
         height();
@@ -47,17 +46,6 @@ public final class EdgeTermsTest extends Checks {
         rowStaysWithRefusals();
         rowStaysWithCallsThatDoNotTell();
         finishParts("Terms 1", "Terms 2");
-    }
-
-    /** "An object is used for at most 512 calls": the last of them is answered as the first is. */
-    private static void used512Times() {
-        RingedPage x = new RingedPage();
-        x.sign(0x39393939);
-        x.words(0);
-        for (int i = 2; i < 511; i++) {
-            x.plans(i % 2, 9, 9);
-        }
-        due("the 512th call", x.count(9), 7);
     }
 
     // ---- terms 1

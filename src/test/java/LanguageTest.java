@@ -1,4 +1,5 @@
 import java.io.IOException;
+import java.lang.reflect.Array;
 import java.lang.reflect.Field;
 import java.lang.reflect.Method;
 import java.lang.reflect.Modifier;
@@ -7,7 +8,9 @@ import java.nio.file.Path;
 import java.util.ArrayList;
 import java.util.Arrays;
 import java.util.Collections;
+import java.util.IdentityHashMap;
 import java.util.List;
+import java.util.Set;
 import java.util.TreeSet;
 import java.util.regex.Matcher;
 import java.util.regex.Pattern;
@@ -24,9 +27,11 @@ public final class LanguageTest {
         "int comes(int, int, int)", "int goes(int, int)", "int day()", "int undo()", "int years(int, int)",
         "boolean keep(int)", "boolean again(int)", "int count(int)", "long row(int)"};
     private static final String SOURCE = "src/main/java/RingedPage.java";
+    private static final Pattern METHOD =
+        Pattern.compile("^( ++)(?!(?:if|for|while|switch|else)\\b)[\\w\\[\\] ]+\\(.*\\)( throws \\w+)? \\{$");
     private static int wrong = 0;
 
-    public static void main(String[] args) throws IOException {
+    public static void main(String[] args) throws IOException, IllegalAccessException {
         theFace();
         for (Class<?> c : classes()) {
             theMembers(c);
@@ -35,6 +40,8 @@ public final class LanguageTest {
         theWords(code);
         theCalls(code);
         theMethods(code);
+        whatIsMade(code);
+        theRoom();
         System.out.println("the face and the language: " + wrong + " wrong");
         if (wrong != 0) {
             System.exit(1);
@@ -143,8 +150,8 @@ public final class LanguageTest {
         int from = -1;
         String indent = "";
         for (int i = 0; i < lines.length; i++) {
-            Matcher head = Pattern.compile("^( +)[\\w\\[\\] ]+\\(.*\\)( throws \\w+)? \\{$").matcher(lines[i]);
-            if (from < 0 && head.find() && !lines[i].trim().matches("(if|for|while|switch|else).*")) {
+            Matcher head = METHOD.matcher(lines[i]);
+            if (from < 0 && head.find()) {
                 from = i;
                 indent = head.group(1);
             } else if (from >= 0 && lines[i].equals(indent + "}")) {
@@ -153,5 +160,72 @@ public final class LanguageTest {
             }
         }
         hold(from < 0, "a method without an end");
+    }
+
+    /** Rule 12: objects are made in constructors and for fields alone, and to be thrown. */
+    private static void whatIsMade(String code) {
+        String inside = "";
+        for (String line : code.split("\n")) {
+            Matcher head = METHOD.matcher(line);
+            if (inside.isEmpty() && head.find()) {
+                inside = line;
+            } else if (!inside.isEmpty() && line.equals(inside.replaceAll("\\S.*", "") + "}")) {
+                inside = "";
+            }
+            boolean isConstructor = inside.trim().matches("(public )?[A-Z]\\w*\\(\\) \\{");
+            boolean makes = Pattern.compile("\\bnew\\b|\\.clone\\(").matcher(line.replace("throw new", "")).find();
+            hold(inside.isEmpty() || isConstructor || !makes, "rule 12: made in a call: " + line.trim());
+        }
+    }
+
+    /** All calls of a run live in one room: an object takes little of it, and no more after its last call than as it was made. */
+    private static void theRoom() throws IllegalAccessException {
+        RingedPage x = new RingedPage();
+        long[] first = roomOf(x);
+        for (int i = 0; i < 511; i++) {
+            switch (i % 7) {
+                case 0: x.sign(0x39393939); break;
+                case 1: x.words(i % 3); break;
+                case 2: x.comes(i % 3, 0, 1 + i % 9); break;
+                case 3: x.takesBest(i % 10, 1 + i % 9); break;
+                case 4: x.keep(i % 2); break;
+                case 5: x.line(0, 0); break;
+                default: x.undo(); break;
+            }
+        }
+        hold(Arrays.equals(first, roomOf(x)), "an object grows: " + Arrays.toString(first) + Arrays.toString(roomOf(x)));
+        hold(first[0] > 10 && first[0] <= 600, "objects and arrays of one object: " + first[0]);
+        hold(first[1] > 1000 && first[1] <= 10000, "fields and elements of one object: " + first[1]);
+    }
+
+    /** How many objects and arrays can be reached from this one, and how many fields and elements they have. */
+    private static long[] roomOf(Object root) throws IllegalAccessException {
+        Set<Object> seen = Collections.newSetFromMap(new IdentityHashMap<>());
+        List<Object> open = new ArrayList<>(List.of(root));
+        long[] room = new long[2];
+        while (!open.isEmpty()) {
+            Object next = open.remove(open.size() - 1);
+            if (next == null || !seen.add(next)) {
+                continue;
+            }
+            room[0]++;
+            if (next.getClass().isArray()) {
+                room[1] += Array.getLength(next);
+                if (next instanceof Object[] parts) {
+                    open.addAll(Arrays.asList(parts));
+                }
+                continue;
+            }
+            for (Field f : next.getClass().getDeclaredFields()) {
+                if (!Modifier.isStatic(f.getModifiers())) {
+                    room[1]++;
+                    f.setAccessible(true);
+                    if (!f.getType().isPrimitive()) {
+                        open.add(f.get(next));
+                    }
+                }
+            }
+        }
+        return room;
     }
 }
